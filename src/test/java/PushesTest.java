@@ -148,6 +148,9 @@ public final class PushesTest {
         // One PUSH either way: 5 beads below, or 1 above.
         dueSet(check, 1, 5, 5, 1, 0, 5);
         dueSet(check, 2, 5, 10, 1, 1, 5);
+        // One PUSH of 4 beads goes ahead of two PUSHES of 2 beads together.
+        dueSet(check, 1, 4, 5, 1, 1, 0);
+        dueSet(check, 1, 1, 10, 1, 1, 5);
         // Two PUSHES and as many beads either way: the greater UP.
         dueSet(check, 2, 3, 5, 2, 1, 0);
         dueSet(check, 0, 2, 10, 2, 2, 0);

@@ -17,6 +17,7 @@ public final class ReckoningTest {
         showing(check);
         clearing(check);
         goingBack(check);
+        keeping(check);
         greasing(check);
         striking(check);
         wrongArguments(check);
@@ -120,6 +121,9 @@ public final class ReckoningTest {
         SorobanHall low = hallOf(1, "00F");
         check.due("nothing SPILLED", low.times(0, 9), 0);
         check.due("135", low.text(0), "135");
+        SorobanHall hundred = hallOf(1, "00D");
+        hundred.times(0, 8);
+        check.due("104", hundred.text(0), "104");
         check.due("what is SPILLED by that alone", chinese.times(0, 2), 1);
         check.due("SPILLED ever", chinese.ofFrame(0, 6), 5);
     }
@@ -168,6 +172,7 @@ public final class ReckoningTest {
         SorobanHall russian = hallOf(2, "0A9A");
         check.due("CARRIES by BRINGING", russian.tidy(0), 3);
         check.due("text of that", russian.text(0), "1100");
+        check.due("9 is not above 9", hallOf(0, "909").tidy(0), 0);
         SorobanHall top = hallOf(2, "A0");
         check.due("CARRIES at the last ROD", top.tidy(0), 1);
         check.due("SPILLED there", top.ofFrame(0, 6), 1);
@@ -234,6 +239,45 @@ public final class ReckoningTest {
         check.due("BEADS stay", hall.ofFrame(0, 3), beads);
         check.due("SECONDS stay", hall.seconds(0), seconds);
         check.due("WEAR stays", hall.ofRod(0, 0, 4), wear);
+    }
+
+    /** Each call that is kept, also if it moves no bead, and what it gives back. */
+    private static void keeping(Check check) {
+        SorobanHall hall = hallOf(1, "1C7");
+        dueKept(check, hall, "push", h -> h.push(0, 2, true, 1));
+        dueKept(check, hall, "set", h -> h.set(0, 0, 15));
+        dueKept(check, hall, "set to the same", h -> h.set(0, 0, 7));
+        dueKept(check, hall, "add", h -> h.add(0, 789));
+        dueKept(check, hall, "add 0", h -> h.add(0, 0));
+        dueKept(check, hall, "times", h -> h.times(0, 9));
+        dueKept(check, hall, "divide", h -> h.divide(0, 7));
+        dueKept(check, hall, "shift left", h -> h.shift(0, true));
+        dueKept(check, hall, "shift right", h -> h.shift(0, false));
+        dueKept(check, hall, "tidy", h -> h.tidy(0));
+        dueKept(check, hall, "show", h -> h.show(0, 0));
+        dueKept(check, hall, "clear", h -> h.clear(0));
+        hall.tidy(0);
+        dueKept(check, hall, "off", h -> h.off(0, 199));
+        dueKept(check, hall, "off 0", h -> h.off(0, 0));
+        dueKept(check, hall, "tidy of a TIDY one", h -> h.tidy(0));
+        check.due("NUMBER all the while", hall.number(0), 227L);
+    }
+
+    private static void dueKept(Check check, SorobanHall hall, String what, Check.Call call) {
+        int kept = hall.ofFrame(0, 8);
+        String before = beads(hall);
+        call.on(hall);
+        check.due("kept by " + what, hall.ofFrame(0, 8), kept + 1);
+        check.due("kept after " + what + " and back", hall.back(0), kept);
+        check.due("UP and DOWN after " + what + " and back", beads(hall), before);
+    }
+
+    private static String beads(SorobanHall hall) {
+        StringBuilder text = new StringBuilder();
+        for (int rod = hall.ofFrame(0, 1) - 1; rod >= 0; rod--) {
+            text.append(hall.ofRod(0, rod, 1)).append(',').append(hall.ofRod(0, rod, 2)).append(' ');
+        }
+        return text.toString();
     }
 
     /** The text after so many of the sets of goingBack(). */

@@ -157,6 +157,7 @@ public final class WouldTest {
         SorobanHall russian = hallOf(2, "99");
         check.dueUnchanged("a CARRY that goes on", russian, 1, h -> h.hardest(0, 0));
         check.dueUnchanged("on the left SPILLED", russian, 1, h -> h.hardest(0, 1));
+        check.due("9 alone carries", hallOf(2, "01").hardest(0, 0), 9);
         check.due("a lone digit of a new ROD", hallOf(2, "00").hardest(0, 1), 1);
         check.due("the first that carries", hallOf(2, "05").hardest(0, 0), 5);
     }
@@ -201,6 +202,11 @@ public final class WouldTest {
         hall.set(1, 1, 15);
         check.due("digest of two FRAMES", hall.digest(), digestTold(hall));
         check.due("digest again", hall.digest(), hall.digest());
+        SorobanHall other = new SorobanHall();
+        other.frame(2, 2);
+        other.frame(0, 2);
+        check.due("quicker with 25", other.quicker(0, 1, 25), 1);
+        check.due("digest of both", other.digest(), digestTold(other));
     }
 
     private static void wrongArguments(Check check) {
