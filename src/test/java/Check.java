@@ -5,6 +5,8 @@ final class Check {
         Object on(SorobanHall hall);
     }
 
+    private static final Call NO_CALL = hall -> 0;
+
     private int wrong;
     private int looked;
 
@@ -19,23 +21,39 @@ final class Check {
     /** The call has to throw just that exception, and to leave the hall as it was. */
     void dueThrow(String what, SorobanHall hall, Class<?> want, Call call) {
         long before = hall.digest();
-        due(what, thrownBy(hall, call), want.getSimpleName());
+        due(what, outcome(hall, call), thrown(want));
         due(what + ": the digest after it", hall.digest(), before);
     }
 
     /** The call has to answer that, and to leave the hall as it was. */
     void dueUnchanged(String what, SorobanHall hall, Object want, Call call) {
         long before = hall.digest();
-        due(what, call.on(hall), want);
+        due(what, outcome(hall, call), want);
         due(what + ": the digest after it", hall.digest(), before);
     }
 
-    private static String thrownBy(SorobanHall hall, Call call) {
+    /** The call has to throw just that exception, and to change nothing, not even what is kept. */
+    void dueRefused(String what, Halls.Build build, Class<?> want, Call call) {
+        dueNothingDone(what, build, thrown(want), call);
+    }
+
+    /** The call has to answer that, and to change nothing, not even what is kept. */
+    void dueNothingDone(String what, Halls.Build build, Object want, Call call) {
+        due(what, outcome(build.hall(), call), want);
+        due(what + ": all that is known after it", Halls.toldAfter(build, call), Halls.toldAfter(build, NO_CALL));
+    }
+
+    /** What the call answers, or what it throws. */
+    static Object outcome(SorobanHall hall, Call call) {
         try {
-            return "the answer " + call.on(hall);
+            return call.on(hall);
         } catch (RuntimeException e) {
-            return e.getClass().getSimpleName();
+            return thrown(e.getClass());
         }
+    }
+
+    private static String thrown(Class<?> exception) {
+        return "throws." + exception.getSimpleName();
     }
 
     void end(String test) {

@@ -24,18 +24,8 @@ public final class ReckoningTest {
         check.end("ReckoningTest");
     }
 
-    /** A hall with one frame, whose rods are SET from the left on to the values of the text. */
-    private static SorobanHall hallOf(int kind, String values) {
-        SorobanHall hall = new SorobanHall();
-        hall.frame(kind, values.length());
-        for (int k = 0; k < values.length(); k++) {
-            hall.set(0, values.length() - 1 - k, Character.digit(values.charAt(k), 16));
-        }
-        return hall;
-    }
-
     private static void adding(Check check) {
-        SorobanHall hall = hallOf(0, "0000");
+        SorobanHall hall = Halls.of(0, "0000");
         check.due("kept at first", hall.ofFrame(0, 8), 4);
         check.due("add 0", hall.add(0, 0), 0);
         check.due("kept also if no bead is moved", hall.ofFrame(0, 8), 5);
@@ -48,17 +38,17 @@ public final class ReckoningTest {
         check.due("text with a CARRY", hall.text(0), "1240");
         check.due("CARRIES", hall.ofFrame(0, 4), 1);
         check.due("the HAND ends at the CARRY", hall.ofFrame(0, 7), 1);
-        SorobanHall chinese = hallOf(1, "0FF");
+        SorobanHall chinese = Halls.of(1, "0FF");
         chinese.add(0, 9);
         check.due("24 leaves 14, and 16 leaves 6", chinese.text(0), "16E");
         check.due("CARRIES of that", chinese.ofFrame(0, 4), 2);
-        SorobanHall russian = hallOf(2, "0AA");
+        SorobanHall russian = Halls.of(2, "0AA");
         russian.add(0, 1);
         check.due("11 leaves 1, twice", russian.text(0), "111");
     }
 
     private static void addingSpilled(Check check) {
-        SorobanHall hall = hallOf(0, "99");
+        SorobanHall hall = Halls.of(0, "99");
         check.due("add 99 to 99", hall.add(0, 99), 3);
         check.due("text", hall.text(0), "98");
         check.due("SPILLED", hall.ofFrame(0, 6), 1);
@@ -70,7 +60,7 @@ public final class ReckoningTest {
     }
 
     private static void takingOff(Check check) {
-        SorobanHall hall = hallOf(0, "10003");
+        SorobanHall hall = Halls.of(0, "10003");
         check.due("off 5", hall.off(0, 5), 1 + 2 * 3 + 1);
         check.due("text", hall.text(0), "09998");
         check.due("LOANS", hall.ofFrame(0, 5), 1);
@@ -79,11 +69,11 @@ public final class ReckoningTest {
         check.due("off 9998", hall.off(0, 9998), 8);
         check.due("text of 0", hall.text(0), "00000");
         check.due("off 0", hall.off(0, 0), 0);
-        SorobanHall chinese = hallOf(1, "302");
+        SorobanHall chinese = Halls.of(1, "302");
         chinese.off(0, 133);
         check.due("two LOANS", chinese.text(0), "169");
         check.due("LOANS of that", chinese.ofFrame(0, 5), 2);
-        SorobanHall way = hallOf(2, "100");
+        SorobanHall way = Halls.of(2, "100");
         double before = way.seconds(0);
         way.off(0, 1);
         check.due("the lender first, from the left on", way.seconds(0) - before,
@@ -91,11 +81,11 @@ public final class ReckoningTest {
     }
 
     private static void takingOffRefused(Check check) {
-        SorobanHall hall = hallOf(0, "0123");
+        SorobanHall hall = Halls.of(0, "0123");
         check.dueUnchanged("more than NUMBER", hall, -2, h -> h.off(0, 124));
         check.dueUnchanged("much more than NUMBER", hall, -2, h -> h.off(0, 9999));
         check.due("just NUMBER", hall.off(0, 123), 3);
-        SorobanHall untidy = hallOf(1, "1A");
+        SorobanHall untidy = Halls.of(1, "1A");
         check.dueUnchanged("not TIDY", untidy, -2, h -> h.off(0, 1));
         check.dueUnchanged("not TIDY, 0", untidy, -2, h -> h.off(0, 0));
         check.due("nothing kept", untidy.ofFrame(0, 8), 2);
@@ -103,25 +93,25 @@ public final class ReckoningTest {
     }
 
     private static void multiplying(Check check) {
-        SorobanHall hall = hallOf(0, "00123");
+        SorobanHall hall = Halls.of(0, "00123");
         check.due("times 7", hall.times(0, 7), 0);
         check.due("861", hall.text(0), "00861");
         check.due("times 1", hall.times(0, 1), 0);
         check.due("861 still", hall.text(0), "00861");
         check.due("times 0", hall.times(0, 0), 0);
         check.due("0", hall.text(0), "00000");
-        SorobanHall spills = hallOf(0, "99");
+        SorobanHall spills = Halls.of(0, "99");
         check.due("99 times 9", spills.times(0, 9), 8);
         check.due("91", spills.text(0), "91");
         check.due("SPILLED", spills.ofFrame(0, 6), 8);
         // 15 * 9 = 135: 5 stays, 3 and 1 are SPILLED as digits.
-        SorobanHall chinese = hallOf(1, "F0");
+        SorobanHall chinese = Halls.of(1, "F0");
         check.due("tens and hundreds SPILLED", chinese.times(0, 9), 4);
         check.due("ones stay", chinese.text(0), "50");
-        SorobanHall low = hallOf(1, "00F");
+        SorobanHall low = Halls.of(1, "00F");
         check.due("nothing SPILLED", low.times(0, 9), 0);
         check.due("135", low.text(0), "135");
-        SorobanHall hundred = hallOf(1, "00D");
+        SorobanHall hundred = Halls.of(1, "00D");
         hundred.times(0, 8);
         check.due("104", hundred.text(0), "104");
         check.due("what is SPILLED by that alone", chinese.times(0, 2), 1);
@@ -129,12 +119,12 @@ public final class ReckoningTest {
     }
 
     private static void dividing(Check check) {
-        SorobanHall hall = hallOf(0, "1000");
+        SorobanHall hall = Halls.of(0, "1000");
         check.due("divide 7", hall.divide(0, 7), 6);
         check.due("142", hall.text(0), "0142");
         check.due("divide 1", hall.divide(0, 1), 0);
         check.due("142 still", hall.text(0), "0142");
-        SorobanHall chinese = hallOf(1, "FF");
+        SorobanHall chinese = Halls.of(1, "FF");
         check.due("divide 2", chinese.divide(0, 2), 1);
         check.due("7, 12", chinese.text(0), "7C");
         check.due("divide 9", chinese.divide(0, 9), 1);
@@ -142,7 +132,7 @@ public final class ReckoningTest {
     }
 
     private static void shifting(Check check) {
-        SorobanHall hall = hallOf(1, "F3A");
+        SorobanHall hall = Halls.of(1, "F3A");
         check.due("left", hall.shift(0, true), 15);
         check.due("text", hall.text(0), "3A0");
         check.due("SPILLED", hall.ofFrame(0, 6), 15);
@@ -153,34 +143,34 @@ public final class ReckoningTest {
         check.due("text at last", hall.text(0), "003");
         check.due("what is gone is not SPILLED", hall.ofFrame(0, 6), 15);
         check.due("the HAND at the last ROD that changed", hall.ofFrame(0, 7), 1);
-        SorobanHall way = hallOf(2, "011");
+        SorobanHall way = Halls.of(2, "011");
         way.shift(0, true);
         check.due("left goes from the left on", way.ofFrame(0, 7), 0);
-        SorobanHall other = hallOf(2, "110");
+        SorobanHall other = Halls.of(2, "110");
         other.shift(0, false);
         check.due("right goes from the right on", other.ofFrame(0, 7), 2);
     }
 
     private static void tidying(Check check) {
-        SorobanHall hall = hallOf(1, "9FA");
+        SorobanHall hall = Halls.of(1, "9FA");
         check.due("CARRIES of tidy", hall.tidy(0), 3);
         check.due("text", hall.text(0), "060");
         check.due("SPILLED", hall.ofFrame(0, 6), 1);
         check.due("CARRIES", hall.ofFrame(0, 4), 3);
         check.due("tidy again", hall.tidy(0), 0);
         check.due("kept", hall.ofFrame(0, 8), 5);
-        SorobanHall russian = hallOf(2, "0A9A");
+        SorobanHall russian = Halls.of(2, "0A9A");
         check.due("CARRIES by BRINGING", russian.tidy(0), 3);
         check.due("text of that", russian.text(0), "1100");
-        check.due("9 is not above 9", hallOf(0, "909").tidy(0), 0);
-        SorobanHall top = hallOf(2, "A0");
+        check.due("9 is not above 9", Halls.of(0, "909").tidy(0), 0);
+        SorobanHall top = Halls.of(2, "A0");
         check.due("CARRIES at the last ROD", top.tidy(0), 1);
         check.due("SPILLED there", top.ofFrame(0, 6), 1);
         check.due("text there", top.text(0), "00");
     }
 
     private static void showing(Check check) {
-        SorobanHall hall = hallOf(1, "0F5");
+        SorobanHall hall = Halls.of(1, "0F5");
         hall.frame(0, 2);
         hall.frame(2, 4);
         check.dueUnchanged("155 has 3 digits", hall, -2, h -> h.show(0, 1));
@@ -208,7 +198,7 @@ public final class ReckoningTest {
     }
 
     private static void clearing(Check check) {
-        SorobanHall hall = hallOf(1, "F06");
+        SorobanHall hall = Halls.of(1, "F06");
         check.due("clear", hall.clear(0), 4);
         check.due("text", hall.text(0), "000");
         check.due("from the left", hall.ofFrame(0, 7), 0);
@@ -243,7 +233,7 @@ public final class ReckoningTest {
 
     /** Each call that is kept, also if it moves no bead, and what it gives back. */
     private static void keeping(Check check) {
-        SorobanHall hall = hallOf(1, "1C7");
+        SorobanHall hall = Halls.of(1, "1C7");
         dueKept(check, hall, "push", h -> h.push(0, 2, true, 1));
         dueKept(check, hall, "set", h -> h.set(0, 0, 15));
         dueKept(check, hall, "set to the same", h -> h.set(0, 0, 7));
@@ -265,19 +255,11 @@ public final class ReckoningTest {
 
     private static void dueKept(Check check, SorobanHall hall, String what, Check.Call call) {
         int kept = hall.ofFrame(0, 8);
-        String before = beads(hall);
+        String before = Halls.beads(hall, 0);
         call.on(hall);
         check.due("kept by " + what, hall.ofFrame(0, 8), kept + 1);
         check.due("kept after " + what + " and back", hall.back(0), kept);
-        check.due("UP and DOWN after " + what + " and back", beads(hall), before);
-    }
-
-    private static String beads(SorobanHall hall) {
-        StringBuilder text = new StringBuilder();
-        for (int rod = hall.ofFrame(0, 1) - 1; rod >= 0; rod--) {
-            text.append(hall.ofRod(0, rod, 1)).append(',').append(hall.ofRod(0, rod, 2)).append(' ');
-        }
-        return text.toString();
+        check.due("UP and DOWN after " + what + " and back", Halls.beads(hall, 0), before);
     }
 
     /** The text after so many of the sets of goingBack(). */
@@ -295,7 +277,7 @@ public final class ReckoningTest {
     }
 
     private static void greasing(Check check) {
-        SorobanHall hall = hallOf(1, "0F");
+        SorobanHall hall = Halls.of(1, "0F");
         hall.set(0, 1, 7);
         check.due("grease", hall.grease(0, 0), 7);
         check.due("WEAR of ABOVE", hall.ofRod(0, 0, 3), 0);
@@ -320,7 +302,7 @@ public final class ReckoningTest {
     }
 
     private static void wrongArguments(Check check) {
-        SorobanHall hall = hallOf(0, "05");
+        SorobanHall hall = Halls.of(0, "05");
         for (int wrong : new int[] {-1, 1, 4, Integer.MIN_VALUE, Integer.MAX_VALUE}) {
             check.dueThrow("add of no frame", hall, INDEX, h -> h.add(wrong, -1));
             check.dueThrow("off of no frame", hall, INDEX, h -> h.off(wrong, 100));
@@ -342,7 +324,7 @@ public final class ReckoningTest {
         check.dueThrow("divide 0", hall, ARGUMENT, h -> h.divide(0, 0));
         check.due("nothing kept by all of that", hall.ofFrame(0, 8), 2);
         check.due("add 94", hall.add(0, 94), 3);
-        SorobanHall wide = hallOf(0, "00000000");
+        SorobanHall wide = Halls.of(0, "00000000");
         check.dueThrow("9 digits on 8 rods", wide, ARGUMENT, h -> h.add(0, 100000000));
         check.due("8 digits on 8 rods", wide.add(0, 99999999), 16);
     }

@@ -16,17 +16,8 @@ public final class WouldTest {
         check.end("WouldTest");
     }
 
-    private static SorobanHall hallOf(int kind, String values) {
-        SorobanHall hall = new SorobanHall();
-        hall.frame(kind, values.length());
-        for (int k = 0; k < values.length(); k++) {
-            hall.set(0, values.length() - 1 - k, Character.digit(values.charAt(k), 16));
-        }
-        return hall;
-    }
-
     private static void dueShown(Check check, int kind, String values, long ways, int beads) {
-        SorobanHall hall = hallOf(kind, values);
+        SorobanHall hall = Halls.of(kind, values);
         check.dueUnchanged("showings of " + values, hall, ways, h -> h.showings(0));
         check.dueUnchanged("fewest of " + values, hall, beads, h -> h.fewest(0));
     }
@@ -85,7 +76,7 @@ public final class WouldTest {
     }
 
     private static void wouldAdd(Check check) {
-        SorobanHall hall = hallOf(0, "0995");
+        SorobanHall hall = Halls.of(0, "0995");
         hall.add(0, 0);
         int[] due = {2 + 2 + 1 + 1, 1 + 5 + 5 + 1, 3, 0};
         for (int what = 0; what <= 3; what++) {
@@ -93,7 +84,7 @@ public final class WouldTest {
             check.dueUnchanged("would 5, " + what, hall, due[what], h -> h.would(0, 5, asked));
             check.dueUnchanged("would 0, " + what, hall, 0, h -> h.would(0, 0, asked));
         }
-        SorobanHall spills = hallOf(0, "99");
+        SorobanHall spills = Halls.of(0, "99");
         spills.add(0, 99);
         check.dueUnchanged("would be SPILLED by that alone", spills, 1, h -> h.would(0, 99, 3));
         check.dueUnchanged("CARRIES by that alone", spills, 2, h -> h.would(0, 99, 2));
@@ -112,7 +103,7 @@ public final class WouldTest {
     }
 
     private static void wouldTakeSeconds(Check check) {
-        SorobanHall hall = hallOf(2, "000");
+        SorobanHall hall = Halls.of(2, "000");
         hall.set(0, 2, 1);
         check.dueUnchanged("1 far away", hall, 0.25 + 0.3125, h -> h.wouldTake(0, 1));
         check.dueUnchanged("100 here", hall, 0.3125, h -> h.wouldTake(0, 100));
@@ -150,63 +141,35 @@ public final class WouldTest {
     }
 
     private static void hardestDigit(Check check) {
-        SorobanHall hall = hallOf(0, "049");
+        SorobanHall hall = Halls.of(0, "049");
         check.dueUnchanged("at 9: two by each digit but 5", hall, 1, h -> h.hardest(0, 0));
         check.dueUnchanged("at 4, the first of two PUSHES", hall, 1, h -> h.hardest(0, 1));
         check.dueUnchanged("at 0", hall, 6, h -> h.hardest(0, 2));
-        SorobanHall russian = hallOf(2, "99");
+        SorobanHall russian = Halls.of(2, "99");
         check.dueUnchanged("a CARRY that goes on", russian, 1, h -> h.hardest(0, 0));
         check.dueUnchanged("on the left SPILLED", russian, 1, h -> h.hardest(0, 1));
-        check.due("9 alone carries", hallOf(2, "01").hardest(0, 0), 9);
-        check.due("a lone digit of a new ROD", hallOf(2, "00").hardest(0, 1), 1);
-        check.due("the first that carries", hallOf(2, "05").hardest(0, 0), 5);
-    }
-
-    /** The digest as the document tells it, from the other answers. */
-    private static long digestTold(SorobanHall hall) {
-        long d = 58320;
-        for (int what = 0; what <= 4; what++) {
-            d = d * 31 + hall.many(what);
-        }
-        for (int f = 0; f < hall.many(0); f++) {
-            for (int what = 0; what <= 12; what++) {
-                d = d * 31 + hall.ofFrame(f, what);
-            }
-            d = d * 31 + hall.number(f);
-            d = d * 31 + (long) (16 * hall.seconds(f));
-            d = d * 31 + hall.showings(f);
-            d = d * 31 + hall.fewest(f);
-            for (int what = 0; what <= 3; what++) {
-                d = d * 31 + hall.would(f, 7, what);
-            }
-            d = d * 31 + (long) (16 * hall.wouldTake(f, 7));
-            for (int rod = 0; rod < hall.ofFrame(f, 1); rod++) {
-                for (int what = 0; what <= 5; what++) {
-                    d = d * 31 + hall.ofRod(f, rod, what);
-                }
-                d = d * 31 + hall.hardest(f, rod);
-            }
-        }
-        return hall.many(0) == 0 ? d : d * 31 + hall.quicker(0, hall.many(0) - 1, 25);
+        check.due("9 alone carries", Halls.of(2, "01").hardest(0, 0), 9);
+        check.due("a lone digit of a new ROD", Halls.of(2, "00").hardest(0, 1), 1);
+        check.due("the first that carries", Halls.of(2, "05").hardest(0, 0), 5);
     }
 
     private static void digests(Check check) {
         SorobanHall hall = new SorobanHall();
         hall.strike();
-        check.due("digest without FRAMES", hall.digest(), digestTold(hall));
+        check.due("digest without FRAMES", hall.digest(), Halls.digestTold(hall));
         hall.frame(0, 3);
         hall.add(0, 68);
-        check.due("digest of one FRAME", hall.digest(), digestTold(hall));
+        check.due("digest of one FRAME", hall.digest(), Halls.digestTold(hall));
         hall.frame(1, 2);
         hall.times(0, 9);
         hall.set(1, 1, 15);
-        check.due("digest of two FRAMES", hall.digest(), digestTold(hall));
+        check.due("digest of two FRAMES", hall.digest(), Halls.digestTold(hall));
         check.due("digest again", hall.digest(), hall.digest());
         SorobanHall other = new SorobanHall();
         other.frame(2, 2);
         other.frame(0, 2);
         check.due("quicker with 25", other.quicker(0, 1, 25), 1);
-        check.due("digest of both", other.digest(), digestTold(other));
+        check.due("digest of both", other.digest(), Halls.digestTold(other));
     }
 
     private static void wrongArguments(Check check) {
