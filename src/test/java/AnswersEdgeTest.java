@@ -195,9 +195,9 @@ public final class AnswersEdgeTest {
             for (String text : shown) {
                 int greatest = POWERS[text.length()] - 1;
                 for (int number : new int[] {0, 1, 5, 9, 10, 11, 56, 99, greatest / 2, greatest}) {
-                    dueWould(Halls.of(kind, text), number);
+                    dueWouldTwice(Halls.of(kind, text), number);
                     if (kind != Halls.JAPANESE) {
-                        dueWould(Halls.of(kind, text.replace('9', 'A').replace('4', 'A')), number);
+                        dueWouldTwice(Halls.of(kind, text.replace('9', 'A').replace('4', 'A')), number);
                     }
                 }
             }
@@ -208,8 +208,14 @@ public final class AnswersEdgeTest {
                 worn.push(0, 0, false, j % 2 == 0 ? 1 : -1);
             }
             check.due("wouldTake with WEAR " + k, worn.wouldTake(0, 1), k < 40 ? 0.3125 : 0.625);
-            dueWould(worn, 8);
+            dueWouldTwice(worn, 8);
         }
+    }
+
+    /** Once more with what was counted by the first time: "by that alone". */
+    private void dueWouldTwice(SorobanHall hall, int number) {
+        dueWould(hall, number);
+        dueWould(hall, number);
     }
 
     private void dueWould(SorobanHall hall, int number) {
@@ -356,21 +362,27 @@ public final class AnswersEdgeTest {
         check.due("1 makes 50 of 49, four PUSHES", Halls.of(Halls.JAPANESE, "049").hardest(0, 0), 1);
     }
 
-    /** Promise 28, for none to four FRAMES. */
+    /** Promise 28, for none to four FRAMES, of which the last one is now quicker with 25, now not. */
     private void digests() {
         SorobanHall hall = new SorobanHall();
         hall.strike();
         dueDigest(hall, 0);
-        int[] kinds = {1, 0, 2, 1};
+        int[] kinds = {2, 0, 1, 0};
         int[] rods = {2, 3, 2, 4};
         for (int frame = 0; frame < 4; frame++) {
             hall.frame(kinds[frame], rods[frame]);
+            dueDigest(hall, frame + 1);
             hall.add(frame, 79 + frame);
             if (frame % 2 == 0) {
                 hall.times(frame, 9);
             }
             dueDigest(hall, frame + 1);
         }
+        SorobanHall two = Halls.with(Halls.RUSSIAN, 2);
+        two.frame(Halls.JAPANESE, 2);
+        check.due("the last one, with 25", two.quicker(0, 1, 25), 1);
+        check.due("as quick with 24 and 26", two.quicker(0, 1, 24) + two.quicker(0, 1, 26), 0);
+        dueDigest(two, 2);
     }
 
     private void dueDigest(SorobanHall hall, int frames) {

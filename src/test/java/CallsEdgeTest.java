@@ -307,7 +307,10 @@ public final class CallsEdgeTest {
             hall.set(0, 0, 15);
             hall.set(0, rods - 1, 4);
             check.due("WEAR of rod 0", hall.grease(0, 0), 7);
+            check.due("WEAR of ABOVE and BELOW then", hall.ofRod(0, 0, 3) + hall.ofRod(0, 0, 4), 0);
+            check.due("WEAR of the last still", hall.ofRod(0, rods - 1, 4), 4);
             check.due("WEAR of the last", hall.grease(0, rods - 1), 4);
+            check.due("WEAR of the last then", hall.ofRod(0, rods - 1, 4), 0);
             check.due("WEAR of the last again", hall.grease(0, rods - 1), 0);
             check.due("SECONDS", hall.seconds(0),
                     0.25 + 2 * 0.0625 + 0.25 + 5 * 0.0625 + (rods - 1) * 0.125 + 0.25 + 4 * 0.0625 + 6.0);

@@ -112,7 +112,9 @@ public final class ModelTest {
         String told = "(" + f + ", " + g + ", " + rod + ", " + what + ", " + few + ", " + n + ")";
         switch (draw(12)) {
             case 0: due(run, call, "number" + told, () -> hall.number(f), () -> model.number(f)); break;
-            case 1: due(run, call, "ofRod" + told, () -> hall.ofRod(f, rod, few), () -> model.ofRod(f, rod, few)); break;
+            case 1:
+                due(run, call, "ofRod" + told, () -> hall.ofRod(f, rod, few), () -> model.ofRod(f, rod, few));
+                break;
             case 2: due(run, call, "ofFrame" + told, () -> hall.ofFrame(f, what), () -> model.ofFrame(f, what)); break;
             case 3: due(run, call, "seconds" + told, () -> hall.seconds(f), () -> model.seconds(f)); break;
             case 4: due(run, call, "text" + told, () -> hall.text(f), () -> model.text(f)); break;

@@ -25,6 +25,7 @@ public final class ReckoningEdgeTest {
         test.shiftRight();
         test.tidyEachNumber();
         test.tidyOfLongChains();
+        test.wayOfTheHand();
         test.check.end("ReckoningEdgeTest");
     }
 
@@ -225,28 +226,34 @@ public final class ReckoningEdgeTest {
     private void loanOfTheNearest() {
         for (int far = 1; far <= 7; far++) {
             for (int lender = 1; lender <= 9; lender++) {
-                SorobanHall hall = Halls.with(Halls.RUSSIAN, 8);
-                hall.set(0, far, lender);
-                hall.set(0, 7, far == 7 ? lender : 5);
-                hall.set(0, 0, 3);
-                int pushes = hall.ofFrame(0, 2);
-                double then = hall.seconds(0);
-                String what = "a LOAN of " + lender + " at rod " + far;
-                check.due("off by " + what, hall.off(0, 4), far + 1);
-                check.due("VALUE, " + what, hall.ofRod(0, far, 0), lender - 1);
-                for (int rod = 1; rod < far; rod++) {
-                    check.due("VALUE between, " + what, hall.ofRod(0, rod, 0), 9);
+                for (int value = 0; value <= 8; value++) {
+                    dueLoan(far, lender, value, value + 1);
+                    dueLoan(far, lender, value, 9);
                 }
-                check.due("its own VALUE, " + what, hall.ofRod(0, 0, 0), 9);
-                check.due("the farther one, " + what, hall.ofRod(0, 7, 0), far == 7 ? lender - 1 : 5);
-                dueCounts(what, hall, 0, 1, 0);
-                check.due("PUSHES, " + what, hall.ofFrame(0, 2) - pushes, far + 1);
-                // To the lender, then back from the left on: 1 bead, 9 for each between, 6 at the end.
-                check.due("SECONDS, " + what, hall.seconds(0) - then,
-                        2 * far * 0.125 + (far + 1) * 0.25 + (1 + 9 * (far - 1) + 6) * 0.0625);
-                check.due("HAND, " + what, hall.ofFrame(0, 7), 0);
             }
         }
+    }
+
+    private void dueLoan(int far, int lender, int value, int digit) {
+        SorobanHall hall = Halls.with(Halls.RUSSIAN, 8);
+        hall.set(0, 7, 5);
+        hall.set(0, far, lender);
+        hall.set(0, 0, value);
+        int hand = hall.ofFrame(0, 7);
+        double then = hall.seconds(0);
+        String what = value + " less " + digit + " by a LOAN of " + lender + " at rod " + far;
+        check.due("PUSHES, " + what, hall.off(0, digit), far + 1);
+        check.due("the lender's VALUE, " + what, hall.ofRod(0, far, 0), lender - 1);
+        for (int rod = 1; rod < far; rod++) {
+            check.due("VALUE between, " + what, hall.ofRod(0, rod, 0), 9);
+        }
+        check.due("its own VALUE, " + what, hall.ofRod(0, 0, 0), value + 10 - digit);
+        check.due("the farther one, " + what, hall.ofRod(0, 7, 0), far == 7 ? lender - 1 : 5);
+        dueCounts(what, hall, 0, 1, 0);
+        // To the lender, then back from the left on: 1 bead, 9 for each between, 10 less the digit at the end.
+        check.due("SECONDS, " + what, hall.seconds(0) - then,
+                (far - hand + far) * 0.125 + (far + 1) * 0.25 + (1 + 9 * (far - 1) + 10 - digit) * 0.0625);
+        check.due("HAND, " + what, hall.ofFrame(0, 7), 0);
     }
 
     /** "VALUE times the digit is BROUGHT: its ones ..., its tens ..., its hundreds ...": with RODS for all of these. */
@@ -424,5 +431,33 @@ public final class ReckoningEdgeTest {
         check.due("CARRIES of FFFFFFFF", most.tidy(0), 8);
         check.due("text of FFFFFFFF", most.text(0), "66666665");
         dueCounts("FFFFFFFF", most, 8, 0, 1);
+    }
+
+    /** The order in which the RODS are SET, told by the HAND's way: each call on the same frame, the HAND at rod 0. */
+    private void wayOfTheHand() {
+        dueWay("add 105", h -> h.add(0, 105), 4, "0110", 4, 24, 2 + 1 + 3 + 1);
+        dueWay("shift left", h -> h.shift(0, true), 9, "A050", 4, 21, 3 + 1 + 1 + 1);
+        dueWay("shift right", h -> h.shift(0, false), 5, "09A0", 4, 25, 1 + 1 + 1);
+        // 9 * 3: 7, and 2 SPILLED; 10 * 3: 0, and 3 to 7 leaves 0, its CARRY SPILLED; 5 * 3: 5, and 1.
+        dueWay("times 3", h -> h.times(0, 3), 3, "0015", 7, 9 + 7 + 10 + 7 + 5 + 5 + 1, 3 + 0 + 1 + 1 + 3 + 0 + 1);
+        dueWay("divide by 3", h -> h.divide(0, 3), 0, "3335", 3, 16, 3 + 1 + 1);
+        dueWay("tidy", h -> h.tidy(0), 2, "0005", 2, 19, 2 + 1);
+        dueWay("show", h -> h.show(1, 0), 4, "0123", 4, 22, 3 + 1 + 1 + 1);
+        dueWay("clear", h -> h.clear(0), 3, "0000", 3, 24, 3 + 1 + 2);
+    }
+
+    private void dueWay(String what, Check.Call call, int answer, String text, int pushes, int beads, int steps) {
+        SorobanHall hall = Halls.of(Halls.RUSSIAN, "9A05");
+        hall.frame(Halls.CHINESE, 3);
+        hall.add(1, 123);
+        check.due("HAND ahead of " + what, hall.ofFrame(0, 7), 0);
+        double then = hall.seconds(0);
+        int pushed = hall.ofFrame(0, 2);
+        int moved = hall.ofFrame(0, 3);
+        check.due(what + " of 9A05", call.on(hall), answer);
+        check.due("text by " + what, hall.text(0), text);
+        check.due("PUSHES by " + what, hall.ofFrame(0, 2) - pushed, pushes);
+        check.due("BEADS by " + what, hall.ofFrame(0, 3) - moved, beads);
+        check.due("SECONDS by " + what, hall.seconds(0) - then, steps * 0.125 + pushes * 0.25 + beads * 0.0625);
     }
 }
